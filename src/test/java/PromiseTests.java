@@ -679,6 +679,16 @@ public final class PromiseTests {
         // what it answers is let be
         x = laid("p1;p1;g1;w0,2,9,99;w1,1,5,0;");
         due("answer", x.match(1), 0);
+        // as many as there can be, and behind them fewer
+        x = laid("p1;g8;g7;g6;g5;g4;g3;g2;g1;w0,1,1,99;w0,2,1,99;w0,3,1,99;w0,4,1,99;w0,5,1,99;w0,6,1,99;w0,7,1,99;");
+        due("worth", x.match(-1), 7);
+        due("match(0)", x.match(0), 0);
+        for (int s = 1; s < 7; s++) {
+            due("match(" + s + ")", x.match(s), 7 - s);
+        }
+        tell(x, "p1;g1;w0,1,0,99;");
+        x.lay();
+        due("match(0)", x.match(0), 0);
         // no sayings
         x = laid("p1;g1;");
         due("worth", x.match(-1), 0);
@@ -713,6 +723,9 @@ public final class PromiseTests {
         order(laid("p9;p1;g1;g9;a99;w0,9,9,99;w1,9,9,0;"), 18, 0, 1);
         // an answer to what gets no grain is free
         order(laid("p1;p1;g1;w0,2,9,99;w1,1,5,0;"), 1, 1);
+        // as many as there can be, each 20 seconds behind the one ahead of it; the last is a short one
+        order(laid("p2;g5;g5;g5;g5;g5;g5;g5;g5;w0,9,1,99;w0,1,1,99;w0,1,1,99;w0,1,1,99;w0,1,1,99;w0,1,1,99;w0,1,1,99;"),
+            121, 0, 1, 2, 3, 4, 5, 6);
         // what was done up to now is let be
         x = laid("p1;g5;g4;g6;w0,4,9,99;w0,6,9,99;");
         x.take(0, 0);
