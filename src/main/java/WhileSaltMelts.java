@@ -645,8 +645,9 @@ public final class WhileSaltMelts {
                 most[table.sayings][set] = 0;
             }
             for (int s = table.sayings - 1; s >= 0; s--) {
+                int fitting = grainsFor(table, evening, s);
                 for (int set = 0; set < 1 << table.grains; set++) {
-                    most[s][set] = mostFrom(table, grainsFor(table, evening, s), s, set);
+                    most[s][set] = mostFrom(table, fitting, s, set);
                 }
             }
             giveFirst(table, evening);

@@ -263,7 +263,7 @@ public final class BestBoundaries extends Boundary {
         match(laid("p1;" + times(8, "g1;") + "w0,1,1,99;"), 1, 0);
     }
 
-    @Words("BAD: a number is none that is told (.. SAYINGS .. such as there are)")
+    @Words("BAD: a number is none that is told .. SAYINGS .. such as there are)")
     static void promise15_badNumbers() {
         WhileSaltMelts x = new WhileSaltMelts();
         due("-2", x.match(-2), BAD);

@@ -339,7 +339,7 @@ public final class EveningBoundaries extends Boundary {
         due("second", x.count(4), 9999);
     }
 
-    @Words("BAD: a number is none that is told (.. SAYINGS .. such as there are)")
+    @Words("BAD: a number is none that is told .. SAYINGS .. such as there are)")
     static void promise10_badNumbers() {
         WhileSaltMelts x = laid("p9;g9;" + times(7, "w0,1,1,99;"));
         x.take(0, 0);
@@ -503,7 +503,7 @@ public final class EveningBoundaries extends Boundary {
         due("undone", x.person(0, 0), 2);
     }
 
-    @Words("BAD: a number is none that is told (.. DISHES: such as there are)")
+    @Words("BAD: a number is none that is told .. DISHES: such as there are)")
     static void promise12_badNumbers() {
         WhileSaltMelts x = laid("p5;g1;" + times(4, "d0,5;"));
         due("dish -1", x.eat(-1), BAD);

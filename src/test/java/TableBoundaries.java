@@ -808,7 +808,7 @@ public final class TableBoundaries extends Boundary {
         due("undone", x.saying(0, 4), NONE);
     }
 
-    @Words("BAD: a number is none that is told (.. SAYINGS .. such as there are)")
+    @Words("BAD: a number is none that is told .. SAYINGS .. such as there are)")
     static void promise7_badNumbers() {
         WhileSaltMelts x = new WhileSaltMelts();
         WhileSaltMelts y = laid("p1;g1;" + times(7, "w0,1,0,99;"));
@@ -826,7 +826,7 @@ public final class TableBoundaries extends Boundary {
         due("saying 6 of 7", y.saying(6, 1), 1);
     }
 
-    @Words("PERSON (what = 0) .. when it ended (4 ..). BAD.")
+    @Words("PERSON (what = 0) .. when it ended (4 .. BAD.")
     static void promise7_badWhat() {
         WhileSaltMelts x = new WhileSaltMelts();
         due("what -1", x.saying(1, -1), BAD);
